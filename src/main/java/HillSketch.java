@@ -25,7 +25,7 @@ public final class HillSketch {
     private static final int IMAGES = 3;
     private static final int SIDES = 4;
 
-    /** The middle of the largest land has 90 directions with a place in them; no place has more. */
+    /** No place, of the largest land either, has places in more directions. */
     private static final int MOST_RAYS = 90;
     /** Two neighbours are never both humps. */
     private static final int MOST_SEEN_HUMPS = MOST_RAYS / 2;
@@ -462,20 +462,21 @@ public final class HillSketch {
     }
 
     public int where(int land, int sketch, int year, int k) {
-        Scene scene = sceneAt(land);
-        if (scene == null || !takesUp(land, sketch, year)) {
-            return NONE;
-        }
-        markFitting(scene, here);
-        return tellMarked(here, k);
+        return marksFitting(land, sketch, year, here) ? tellMarked(here, k) : NONE;
     }
 
-    /** Marks the places that the sketch in the fitter fits. */
-    private void markFitting(Scene scene, boolean[] marks) {
+    /** Marks the places that a sketch fits; false if there is none such. */
+    private boolean marksFitting(int land, int sketch, int year, boolean[] marks) {
+        Scene scene = sceneAt(land);
+        if (scene == null || !takesUp(land, sketch, year)) {
+            return false;
+        }
         wipe(marks);
         for (int p = 0; p < scene.land.places() && p < marks.length; p++) {
-            marks[p] = fitter.suits(scene.lineOf(p));
+            fitter.line = scene.lineOf(p);
+            marks[p] = fitter.leastStart() != NONE;
         }
+        return true;
     }
 
     private static void wipe(boolean[] marks) {
@@ -568,7 +569,8 @@ public final class HillSketch {
     private int countFitting(Scene scene, int but, int most) {
         int count = 0;
         for (int p = 0; p < scene.land.places() && count < most; p++) {
-            if (p != but && fitter.suits(scene.lineOf(p))) {
+            fitter.line = scene.lineOf(p);
+            if (p != but && fitter.leastStart() != NONE) {
                 count++;
             }
         }
@@ -594,13 +596,14 @@ public final class HillSketch {
         land.heights[c] = 0;
         sight.aim(land, p);
         sight.look(land, trial);
-        if (fitter.suits(trial)) {
+        fitter.line = trial;
+        if (fitter.leastStart() != NONE) {
             return 0;
         }
         int ray = sight.rayOf[c];
         for (int h = 1; h <= MOST_HEIGHT && ray != NONE; h++) {
             land.heights[c] = h;
-            if (sight.changes(land, trial, ray) && fitter.suits(trial)) {
+            if (sight.changes(land, trial, ray) && fitter.leastStart() != NONE) {
                 return h;
             }
         }
@@ -610,15 +613,14 @@ public final class HillSketch {
     // Two sketches, and ways over a land
 
     public int pairs(int land, int one, int other, int l) {
-        Scene scene = sceneAt(land);
-        if (scene == null || l < 0 || l > MOST_HAZE || !marksBoth(scene, land, one, other)) {
+        Land it = landAt(land);
+        if (it == null || l < 0 || l > MOST_HAZE || !marksBoth(land, one, other)) {
             return NONE;
         }
         int pairs = 0;
-        int places = scene.land.places();
-        for (int p = 0; p < places && p < MOST_PLACES; p++) {
-            for (int q = 0; q < places && q < MOST_PLACES && here[p]; q++) {
-                if (there[q] && scene.land.apart(p, q) <= l) {
+        for (int p = 0; p < it.places(); p++) {
+            for (int q = 0; q < it.places() && here[p]; q++) {
+                if (there[q] && it.apart(p, q) <= l) {
                     pairs++;
                 }
             }
@@ -627,12 +629,12 @@ public final class HillSketch {
     }
 
     public int way(int land, int one, int other, int c) {
-        Scene scene = sceneAt(land);
-        if (scene == null || c < 0 || c > MOST_HEIGHT || !marksBoth(scene, land, one, other)) {
+        Land it = landAt(land);
+        if (it == null || c < 0 || c > MOST_HEIGHT || !marksBoth(land, one, other)) {
             return NONE;
         }
-        walker.ready(scene.land, c);
-        for (int p = 0; p < MOST_PLACES; p++) {
+        walker.ready(it, c);
+        for (int p = 0; p < it.places(); p++) {
             if (here[p]) {
                 walker.begin(p);
             }
@@ -641,16 +643,8 @@ public final class HillSketch {
     }
 
     /** Marks where the one sketch fits, here, and where the other one does, there; false if there is none such. */
-    private boolean marksBoth(Scene scene, int land, int one, int other) {
-        if (!takesUp(land, one, NONE)) {
-            return false;
-        }
-        markFitting(scene, here);
-        if (!takesUp(land, other, NONE)) {
-            return false;
-        }
-        markFitting(scene, there);
-        return true;
+    private boolean marksBoth(int land, int one, int other) {
+        return marksFitting(land, one, NONE, here) && marksFitting(land, other, NONE, there);
     }
 
     public int sneak(int land, int a, int b, int p) {
@@ -761,7 +755,8 @@ public final class HillSketch {
             draft.drawFrom(line, start, n);
             draft.scrawlOver(seed + world, e);
             fitter.hold(scene.land, draft, NONE);
-            if (fitter.suits(line) && !(alone && countFitting(scene, p, 1) > 0)) {
+            fitter.line = line;
+            if (fitter.leastStart() != NONE && !(alone && countFitting(scene, p, 1) > 0)) {
                 found++;
             }
         }
@@ -916,7 +911,8 @@ public final class HillSketch {
         }
 
         int places() {
-            return Math.min(width * depth, MOST_PLACES);
+            int places = width * depth;
+            return places < MOST_PLACES ? places : MOST_PLACES;
         }
 
         boolean has(int p) {
@@ -940,7 +936,10 @@ public final class HillSketch {
 
         /** The rise of q from p, d being their distance squared. */
         int lift(int p, int q, int d) {
-            return has(p) && has(q) ? heights[q] - bend * d / HUNDRED - heights[p] - eye : 0;
+            if (p < 0 || p >= MOST_PLACES || q < 0 || q >= MOST_PLACES) {
+                return 0;
+            }
+            return heights[q] - bend * d / HUNDRED - heights[p] - eye;
         }
 
         /** The neighbour to the north, east, south or west, or NONE. */
@@ -1025,7 +1024,7 @@ public final class HillSketch {
         }
 
         boolean isMarked(int i, int mark) {
-            return hasHump(i) && (marks[i] & mark) != 0;
+            return i >= 0 && i < humps && i < MOST_HUMPS && (marks[i] & mark) != 0;
         }
 
         /** Whether some hump asks for a tower or for none, so that it matters in which year it was drawn. */
@@ -1366,7 +1365,7 @@ public final class HillSketch {
         final int[] east = new int[DIRECTIONS];
         final int[] south = new int[DIRECTIONS];
 
-        /** Farey's fractions, in order, are the directions from north to north-east; the rest are mirrored and turned. */
+        /** Farey's fractions, in order, are the directions from north to north-east; the rest are these, mirrored. */
         Compass() {
             int a = 0;
             int b = 1;
@@ -1453,7 +1452,8 @@ public final class HillSketch {
             if (one < 0 || one >= MOST_RAYS || other < 0 || other >= MOST_RAYS) {
                 return 0;
             }
-            return Integer.compare(slope[one] * dist[other], slope[other] * dist[one]);
+            int more = slope[one] * dist[other] - slope[other] * dist[one];
+            return more > 0 ? 1 : more < 0 ? -1 : 0;
         }
 
         void show(int place, boolean yes) {
@@ -1597,7 +1597,7 @@ public final class HillSketch {
             line.lakes = 0;
             for (int k = 0; k < land.things && k < MOST_THINGS; k++) {
                 int place = land.thingAt[k];
-                if (!land.tower[k] && land.has(place) && line.shows(place)) {
+                if (!land.tower[k] && place >= 0 && place < MOST_PLACES && line.shows(place)) {
                     line.addLake(rayOf[place]);
                 }
             }
@@ -1612,6 +1612,7 @@ public final class HillSketch {
         private final Sight sight;
         private final Skyline blank = new Skyline();
         private final Skyline[] lines = new Skyline[MOST_PLACES];
+        private final long[] watched = new long[MASK_WORDS * MOST_PLACES];
         private final long[] left = new long[MASK_WORDS * (MOST_GUARDS + 1)];
         private int guardsFound;
         private int guardsVersion = NONE;
@@ -1651,8 +1652,13 @@ public final class HillSketch {
             Arrays.fill(left, 0L);
             widest = 0;
             for (int p = 0; p < land.places(); p++) {
-                left[p >> 6] |= 1L << (p & 63);
-                widest = Math.max(widest, lineOf(p).countShown() + 1);
+                Skyline line = lineOf(p);
+                widest = Math.max(widest, line.countShown() + 1);
+                for (int word = 0; word < MASK_WORDS; word++) {
+                    long own = p >> 6 == word ? 1L << (p & 63) : 0L;
+                    left[word] |= own;
+                    watched[p * MASK_WORDS + word] = line.shown[word] | own;
+                }
             }
             for (int size = 1; size <= MOST_GUARDS; size++) {
                 if (post(0, size, 0)) {
@@ -1683,15 +1689,14 @@ public final class HillSketch {
 
         /** How many places are left unwatched with one guard more. */
         private int watch(int depth, int p) {
-            Skyline line = lineOf(p);
+            if (depth < 0 || depth >= MOST_GUARDS || p < 0 || p >= MOST_PLACES) {
+                return 0;
+            }
             int count = 0;
             for (int word = 0; word < MASK_WORDS; word++) {
                 int at = depth * MASK_WORDS + word;
-                if (at >= 0 && at + MASK_WORDS < left.length) {
-                    long own = p >> 6 == word ? 1L << (p & 63) : 0L;
-                    left[at + MASK_WORDS] = left[at] & ~line.shown[word] & ~own;
-                    count += Long.bitCount(left[at + MASK_WORDS]);
-                }
+                left[at + MASK_WORDS] = left[at] & ~watched[p * MASK_WORDS + word];
+                count += Long.bitCount(left[at + MASK_WORDS]);
             }
             return count;
         }
@@ -1831,11 +1836,6 @@ public final class HillSketch {
             return NONE;
         }
 
-        boolean suits(Skyline skyline) {
-            line = skyline;
-            return leastStart() != NONE;
-        }
-
         int greatestReach() {
             int best = 0;
             for (int start = 0; start < line.humps && best < sketch.humps && canBe(); start++) {
@@ -1918,7 +1918,7 @@ public final class HillSketch {
                 stand(start);
                 int needed = findClashes();
                 for (int span = firstSpan; span <= lastSpan; span++) {
-                    fewest = fewestOf(needed | withoutTower(yearFrom(span)), fewest);
+                    fewest = fewestWith(needed | withoutTower(yearFrom(span)), fewest, 0);
                 }
             }
             return fewest;
@@ -1932,6 +1932,7 @@ public final class HillSketch {
                 for (int k = 0; k < i; k++) {
                     if (!agree(i, k)) {
                         against[i] |= 1 << k;
+                        against[k] |= 1 << i;
                     }
                 }
                 if (lacksLake(i)) {
@@ -1951,15 +1952,17 @@ public final class HillSketch {
             return lacking;
         }
 
-        private int fewestOf(int needed, int best) {
-            int fewest = best;
-            int sets = 1 << Math.min(sketch.humps, MOST_DOUBTED);
-            for (int set = needed; set < sets; set++) {
-                if ((set & needed) == needed && isFewer(set, fewest) && settles(set)) {
-                    fewest = set;
-                }
+        /** Of a hump and those that it clashes with, it is doubted or they are; each level doubts one more at least. */
+        private int fewestWith(int set, int best, int depth) {
+            int clash = firstClash(set);
+            if (clash == NONE) {
+                return isFewer(set, best) ? set : best;
             }
-            return fewest;
+            if (depth >= MOST_DOUBTED || best != NONE && Integer.bitCount(set) >= Integer.bitCount(best)) {
+                return best;
+            }
+            int fewest = fewestWith(set | 1 << clash, best, depth + 1);
+            return fewestWith(set | against[clash], fewest, depth + 1);
         }
 
         private static boolean isFewer(int set, int best) {
@@ -1967,14 +1970,14 @@ public final class HillSketch {
             return best == NONE || more < 0 || more == 0 && set < best;
         }
 
-        /** Whether no two humps outside of a set clash. */
-        private boolean settles(int set) {
+        /** The first hump outside of a set that clashes with another one outside, or NONE. */
+        private int firstClash(int set) {
             for (int i = 0; i < sketch.humps && i < MOST_DOUBTED; i++) {
                 if ((set >> i & 1) == 0 && (against[i] & ~set) != 0) {
-                    return false;
+                    return i;
                 }
             }
-            return true;
+            return NONE;
         }
 
         /** The least or greatest of height squared by steepness squared, above or below the line. */
