@@ -74,7 +74,7 @@ public final class FitPromisesTest {
     // 64 * 81 = 5184 is 44 of 100 of 3600 away from 100 * 36
     Check.due("15: true, give of just so much", firstOf(RING, "hump 10;hump 8;half;true;give 44;", 0, 0), 2);
     Check.due("15: true, give of one less", firstOf(RING, "hump 10;hump 8;half;true;give 43;", 0, 0), 1);
-    // 16 * 81 = 1296 is 44 of 100 of 900, but as it is less than 36 * 100 by 64 of 100
+    // 16 * 81 = 1296 is 64 of 100 of 3600 away from it, from below
     Check.due("15: true, away from the later one's side", firstOf(RING, "hump 10;hump 4;half;true;give 64;", 0, 0), 2);
     Check.due("15: true, away from the later one's side", firstOf(RING, "hump 10;hump 4;half;true;give 63;", 0, 0), 1);
     HillSketch x = Check.on(RING, "hump 1;hump 1;true;give 99;", "hump 7;true;half;");
@@ -329,10 +329,10 @@ public final class FitPromisesTest {
     int[] known = {-1, -1, -1, -1, 3, -1, -1, -1, -1};
     for (int p = 0; p < 9; p++) Check.due("27: place " + p, x.known(0, p), known[p]);
     Check.due("27: without humps", Check.on("").known(0, 0), -1);
-    Check.due("27: one is enough where nobody else has any", Check.on("size 4 2;haze 1;heights 0 0 9 0 0 0 9 0;").known(0, 1), -1);
-    // only 1 and 2 of this land have three rays, and the hump of 1 is 0
+    // only 1 and 4 have three rays, and nothing stands out from 4
     HillSketch y = Check.on("size 3 2;haze 1;heights 0 0 5;");
-    Check.due("27: one is enough", y.known(0, 1), y.rivals(0, 1, 0, 1) == 0 ? 1 : -1);
+    Check.due("27: one is enough", y.known(0, 1), 1);
+    Check.due("27: one is enough", y.known(0, 4), -1);
     for (int p : new int[] {-1, 9, MIN, MAX}) Check.due("27: no place " + p, x.known(0, p), -1);
     Check.due("27: no land", x.known(1, 0), -1);
   }
@@ -351,8 +351,10 @@ public final class FitPromisesTest {
     }
     Check.due("30: no sketch", x.lacks(0, 4, 4, 3), -1);
     Check.due("30: no land", x.lacks(1, 0, 4, 3), -1);
-    HillSketch y = Check.on("size 3 3;haze 1;heights 9 2 9 4 0 9 9 6 9;", "hump 1;hump 1;", "hump 3;hump 2;");
-    Check.due("30: in haze it does not matter", y.lacks(0, 1, 4, 0), y.fits(0, 1, 4, -1) >= 0 ? 0 : -1);
+    HillSketch y = Check.on("size 3 3;haze 1;heights 9 2 9 4 0 9 9 6 9;", "hump 1;", "hump 3;hump 2;");
+    Check.due("30: outside of the haze it does not matter", y.lacks(0, 0, 4, 0), 0);
+    Check.due("30: outside of the haze it does not matter", y.lacks(0, 1, 4, 0), -1);
+    Check.due("30: in haze it does", y.lacks(0, 1, 4, 3), 7);
     HillSketch z = Check.on(RING + "tower 3 50 60;", "hump 3;hump 1;hump 2 tower;", "hump 3;hump 1;hump 2 tower;years 0 49;");
     Check.due("30: in some year", z.lacks(0, 0, 4, 3), 7);
     Check.due("30: in none", z.lacks(0, 1, 4, 3), -1);
