@@ -614,7 +614,10 @@ public final class HillSketch {
 
     public int pairs(int land, int one, int other, int l) {
         Land it = landAt(land);
-        if (it == null || l < 0 || l > MOST_HAZE || !marksBoth(land, one, other)) {
+        if (it == null || l < 0 || l > MOST_HAZE) {
+            return NONE;
+        }
+        if (!marksFitting(land, one, NONE, here) || !marksFitting(land, other, NONE, there)) {
             return NONE;
         }
         int pairs = 0;
@@ -630,7 +633,10 @@ public final class HillSketch {
 
     public int way(int land, int one, int other, int c) {
         Land it = landAt(land);
-        if (it == null || c < 0 || c > MOST_HEIGHT || !marksBoth(land, one, other)) {
+        if (it == null || c < 0 || c > MOST_HEIGHT) {
+            return NONE;
+        }
+        if (!marksFitting(land, one, NONE, here) || !marksFitting(land, other, NONE, there)) {
             return NONE;
         }
         walker.ready(it, c);
@@ -640,11 +646,6 @@ public final class HillSketch {
             }
         }
         return walker.walkTo(there);
-    }
-
-    /** Marks where the one sketch fits, here, and where the other one does, there; false if there is none such. */
-    private boolean marksBoth(int land, int one, int other) {
-        return marksFitting(land, one, NONE, here) && marksFitting(land, other, NONE, there);
     }
 
     public int sneak(int land, int a, int b, int p) {
@@ -1606,6 +1607,9 @@ public final class HillSketch {
 
     /** The skylines of a land, each looked at when it is first asked for. */
     private static final class Scene {
+        /** Far above the rows of three that there are. */
+        private static final int MOST_TURNS = 1000000;
+
         final Land land;
         int version;
         final int[] guard = new int[MOST_GUARDS];
@@ -1661,27 +1665,31 @@ public final class HillSketch {
                 }
             }
             for (int size = 1; size <= MOST_GUARDS; size++) {
-                if (post(0, size, 0)) {
+                if (posts(size)) {
                     return size;
                 }
             }
             return NONE;
         }
 
-        /** Tries guards in order, so the first row found is the least one; depth is at most MOST_GUARDS. */
-        private boolean post(int depth, int size, int first) {
-            if (depth < 0 || depth >= MOST_GUARDS || depth >= size) {
-                return false;
-            }
-            for (int p = first; p < land.places(); p++) {
-                int unwatched = watch(depth, p);
-                guard[depth] = p;
-                if (unwatched == 0 && depth + 1 == size) {
+        /** Tries rows of so many guards in order, so that the first one found is the least. */
+        private boolean posts(int size) {
+            int depth = 0;
+            guard[0] = NONE;
+            for (int turn = 0; turn < MOST_TURNS && depth >= 0 && depth < MOST_GUARDS; turn++) {
+                guard[depth]++;
+                if (guard[depth] >= land.places()) {
+                    depth--;
+                    continue;
+                }
+                int unwatched = watch(depth, guard[depth]);
+                int more = size - depth - 1;
+                if (unwatched == 0 && more == 0) {
                     return true;
                 }
-                int could = (size - depth - 1) * widest;
-                if (unwatched <= could && post(depth + 1, size, p + 1)) {
-                    return true;
+                if (more > 0 && unwatched <= more * widest) {
+                    depth++;
+                    guard[depth] = guard[depth - 1];
                 }
             }
             return false;
@@ -1705,6 +1713,8 @@ public final class HillSketch {
     /** Holds a sketch against skylines. */
     private static final class Fitter {
         private static final int MOST_SPANS = 2 * MOST_THINGS + 1;
+        /** Each try doubts one more of eight humps and leads to two others. */
+        private static final int MOST_TRIES = 512;
 
         Land land = new Land();
         Sketch sketch = new Sketch();
@@ -1717,6 +1727,7 @@ public final class HillSketch {
         private boolean byYears;
         private final int[] spot = new int[MOST_HUMPS];
         private final int[] against = new int[MOST_HUMPS];
+        private final int[] tries = new int[2 * MOST_DOUBTED];
 
         /** Takes up a sketch for one year, or (NONE) for all of its own. */
         void hold(Land ground, Sketch drawn, int year) {
@@ -1918,7 +1929,7 @@ public final class HillSketch {
                 stand(start);
                 int needed = findClashes();
                 for (int span = firstSpan; span <= lastSpan; span++) {
-                    fewest = fewestWith(needed | withoutTower(yearFrom(span)), fewest, 0);
+                    fewest = fewestWith(needed | withoutTower(yearFrom(span)), fewest);
                 }
             }
             return fewest;
@@ -1952,17 +1963,25 @@ public final class HillSketch {
             return lacking;
         }
 
-        /** Of a hump and those that it clashes with, it is doubted or they are; each level doubts one more at least. */
-        private int fewestWith(int set, int best, int depth) {
-            int clash = firstClash(set);
-            if (clash == NONE) {
-                return isFewer(set, best) ? set : best;
+        /** Of a hump and those that it clashes with, it is doubted or they are: both are tried, the former first. */
+        private int fewestWith(int needed, int best) {
+            int fewest = best;
+            int open = 1;
+            tries[0] = needed;
+            for (int turn = 0; turn < MOST_TRIES && open > 0; turn++) {
+                open--;
+                int set = tries[open];
+                int clash = firstClash(set);
+                boolean mayAdd = fewest == NONE || Integer.bitCount(set) < Integer.bitCount(fewest);
+                if (clash == NONE) {
+                    fewest = isFewer(set, fewest) ? set : fewest;
+                } else if (mayAdd && open + 1 < tries.length) {
+                    tries[open] = set | against[clash];
+                    tries[open + 1] = set | 1 << clash;
+                    open += 2;
+                }
             }
-            if (depth >= MOST_DOUBTED || best != NONE && Integer.bitCount(set) >= Integer.bitCount(best)) {
-                return best;
-            }
-            int fewest = fewestWith(set | 1 << clash, best, depth + 1);
-            return fewestWith(set | against[clash], fewest, depth + 1);
+            return fewest;
         }
 
         private static boolean isFewer(int set, int best) {

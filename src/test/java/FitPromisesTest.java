@@ -51,6 +51,12 @@ public final class FitPromisesTest {
       Check.due("15: turned, " + start, firstOf(RING, ODD + "turned;", start, -1), turned[start]);
     }
     Check.due("15: give of 1", firstOf(RING, ODD + "give 1;", 0, -1), 3);
+    for (String sketch : new String[] {"hump 1;hump 2;", "hump 2;hump 1;"}) {
+      HillSketch alike = Check.on("size 9 9;", sketch);
+      alike.mend(0, 31, 5);
+      alike.mend(0, 7, 25);
+      Check.due("15: neither is steeper, " + sketch, alike.first(0, 0, 40, 0, -1), 1);
+    }
     Check.due("15: as high ones ask for nothing", firstOf(RING, "hump 1;hump 1;hump 1;", 2, 0), 3);
     Check.due("15: fewer, whole", firstOf(RING, HIGH_LOW, 0, 5), 0);
     Check.due("15: fewer, half", firstOf(RING, HIGH_LOW + "half;", 0, 5), 2);
@@ -120,6 +126,13 @@ public final class FitPromisesTest {
     Check.due("15: only its years", firstOf(TOWERS, "hump 2 tower;hump 1;half;years 20 29;", 0, -1), 2);
     Check.due("15: a year that is asked for, of its own or not", firstOf(TOWERS, "hump 2 tower;hump 1;half;years 0 9;", 0, 10), 2);
     Check.due("15: from one year on", firstOf(RING + "tower 5 0 50;", "hump 2 bare;half;", 0, -1), 1);
+    String often = RING + "tower 5 60 70;tower 7 20 30;tower 5 20 20;tower 3 90 99;tower 7 95 98;tower 5 98 98;";
+    Check.due("15: years of many towers", firstOf(often, both, 0, -1), 2);
+    Check.due("15: years of many towers", firstOf(often, both + "years 21 99;", 0, -1), 2);
+    Check.due("15: years of many towers", firstOf(often, both + "years 21 97;", 0, -1), 1);
+    Check.due("15: years of many towers", firstOf(often, "hump 3 tower;hump 2 tower;hump 1 tower;", 0, -1), 3);
+    Check.due("15: the last year", firstOf(often, "hump 1 tower;half;", 2, 99), 1);
+    Check.due("15: the first year", firstOf(RING + "tower 3 0 0;", "hump 1 tower;half;", 2, 0), 1);
     Check.due("15: both at once", firstOf(RING + "tower 5 0 50;tower 7 50 60;", both, 0, -1), 2);
   }
 
@@ -163,6 +176,8 @@ public final class FitPromisesTest {
       for (int k = 0; k < tops[i].length; k++) Check.due("18: hump " + i + ", hill " + k, x.hills(0, 0, i, k), tops[i][k]);
       Check.due("18: no more", x.hills(0, 0, i, tops[i].length), -1);
     }
+    HillSketch corner = Check.on("size 3 3;heights 9;", "hump 1;half;");
+    Check.due("18: hill 0", corner.hills(0, 0, 0, 0), 0);
     Check.due("18: by all starts", x.hills(0, 1, 0, -1), 3);
     for (int i : new int[] {-1, 2, MIN, MAX}) Check.due("18: no hump " + i, x.hills(0, 0, i, -1), -1);
     Check.due("18: no hill", x.hills(0, 0, 0, -2), -1);
@@ -206,8 +221,14 @@ public final class FitPromisesTest {
     Check.due("21: the fewest, then the least number", y.doubt(0, 1), 3);
     Check.due("21: lakes", y.doubt(0, 2), 2);
     Check.due("21: eight humps are nowhere", y.doubt(0, 3), -1);
-    HillSketch z = Check.on("size 12 12;", "hump 1;".repeat(9) + "half;");
+    // going around, its steepness goes up all the way but once
+    HillSketch z = many();
+    Check.sketch(z, "hump 1;".repeat(9) + "half;");
+    Check.sketch(z, "hump 1;hump 2;hump 3;hump 4;hump 5;hump 6;hump 7;hump 8 tower;half;");
+    Check.sketch(z, "hump 1;hump 1;hump 1;hump 1;hump 1;hump 1;hump 1;hump 1;half;");
     Check.due("21: nine humps", z.doubt(0, 0), -1);
+    Check.due("21: eight humps", z.doubt(0, 2), 0);
+    Check.due("21: eight humps, with a tower", Integer.bitCount(z.doubt(0, 1) & 128), 1);
     Check.due("21: no sketch", x.doubt(0, 4), -1);
     Check.due("21: no land", x.doubt(1, 0), -1);
   }
@@ -227,6 +248,15 @@ public final class FitPromisesTest {
     Check.due("22: without towers", y.since(0, 1, false), 7);
     Check.due("22: without towers", y.since(0, 1, true), 8);
     Check.due("22: in none", y.since(0, 2, true), -1);
+    // only 4 has three humps; 5 and 7 both have towers in 20 .. 25 and 65 .. 70
+    HillSketch z = Check.on(RING + "tower 5 60 70;tower 5 20 30;tower 7 65 99;tower 7 1 25;",
+      "hump 3 tower;hump 2 tower;hump 1;", "hump 3 tower;hump 2 bare;hump 1;", "hump 3 bare;hump 2 bare;hump 1;",
+      "hump 3 tower;hump 2 tower;hump 1;years 24 69;");
+    int[][] spans = {{20, 70}, {26, 64}, {0, 59}, {24, 69}};
+    for (int s = 0; s < 4; s++) {
+      Check.due("22: since, by many towers, " + s, z.since(0, s, false), spans[s][0]);
+      Check.due("22: until, by many towers, " + s, z.since(0, s, true), spans[s][1]);
+    }
     Check.due("22: no sketch", y.since(0, 3, true), -1);
     Check.due("22: no land", y.since(1, 0, true), -1);
   }
@@ -254,6 +284,7 @@ public final class FitPromisesTest {
     Check.due("24: from 2 by 1 to 4", x.way(0, 2, 1, 2), 2);
     Check.due("24: from 7 to 4", x.way(0, 2, 1, 6), 1);
     Check.due("24: not yet", x.way(0, 2, 1, 5), 2);
+    Check.due("24: c of 999", x.way(0, 2, 1, 999), 1);
     Check.due("24: to none", x.way(0, 0, 3, 999), -1);
     Check.due("24: from none", x.way(0, 3, 0, 999), -1);
     for (int c : new int[] {-1, 1000, MIN, MAX}) Check.due("24: no " + c, x.way(0, 0, 1, c), -1);
@@ -344,6 +375,12 @@ public final class FitPromisesTest {
     Check.due("30: and is seen so", x.hump(0, 4, 2), 3);
     Check.due("30: with 0, by 2 in the stead of 5", x.lacks(0, 1, 4, 5), 0);
     Check.due("30: with none", x.lacks(0, 2, 4, 5), -1);
+    HillSketch top = Check.on("size 3 3;heights 0 0 0 0 0 0 0 998 0;", "hump 2;hump 1;");
+    Check.due("30: 999 at most, to the north", top.lacks(0, 0, 4, 1), 1);
+    Check.sketch(top, "hump 1;hump 1;true;");
+    Check.due("30: just as steep", top.lacks(0, 1, 4, 1), 998);
+    top.mend(0, 7, 999);
+    Check.due("30: with the greatest height", top.lacks(0, 1, 4, 1), 999);
     Check.due("30: p itself", x.lacks(0, 1, 4, 4), -1);
     for (int p : new int[] {-1, 9, MIN, MAX}) {
       Check.due("30: no place " + p, x.lacks(0, 0, p, 3), -1);
@@ -374,6 +411,8 @@ public final class FitPromisesTest {
     isStretch(x, 1, 4, 0, 1, 16, 1, 9);
     isStretch(x, 2, 0, 0, 25, 9, 405, 64);
     isStretch(x, 3, 4, 0, 121, 1, 121, 1);
+    isStretch(Check.on("size 3 3;heights 0 0 0 5 5 10;", "hump 3;hump 2;"), 0, 4, 0, 9, 25, 9, 25);
+    isStretch(Check.on("size 3 3;heights 0 7;", "hump 3;"), 0, 4, 0, 9, 49, 9, 49);
     isStretch(x, 2, 5, 0, -1, -1, -1, -1);
     isStretch(x, 2, 4, 0, -1, -1, -1, -1);
     isStretch(x, 0, 4, 3, -1, -1, -1, -1);

@@ -220,6 +220,7 @@ public final class SightPromisesTest {
     Check.due("40: b is seen", x.sneak(0, 2, 3, 0), -1);
     Check.due("40: a is p", x.sneak(0, 0, 2, 0), -1);
     Check.due("40: b is p", x.sneak(0, 2, 0, 0), -1);
+    Check.due("40: the end of a row is far from the next one", Check.on("size 4 3;haze 1;").sneak(0, 3, 4, 11), 4);
     Check.due("40: heights do not matter", Check.on("size 3 3;haze 1;heights 0 0 0 0 999;").sneak(0, 2, 6, 0), 4);
     for (int p : NO_PLACES) {
       Check.due("40: no place " + p, x.sneak(0, p, 8, 0), -1);
@@ -238,6 +239,7 @@ public final class SightPromisesTest {
     Check.due("41: as high ones are not higher", y.proud(0, 4), 5);
     HillSketch z = Check.on("size 5 2;heights 5 1 9 0 0 0 4 4;");
     Check.due("41: one goes where it is highest", z.proud(0, 0), 4);
+    Check.due("41: the end of a row is far from the next one", Check.on("size 3 3;heights 0 0 5 9 0 0 0 0 0;").proud(0, 2), 5);
     z.mend(0, 5, 3);
     Check.due("41: one goes where it is highest", z.proud(0, 0), 2);
     for (int p : new int[] {-1, 10, MIN, MAX}) Check.due("41: no place " + p, x.proud(0, p), -1);
@@ -248,6 +250,7 @@ public final class SightPromisesTest {
     Check.due("42: three", Check.on("size 5 2;heights 5 3 8 2 6;").peaks(0), 3);
     Check.due("42: none of a flat land", Check.on(FLAT).peaks(0), 0);
     Check.due("42: none of two alike", Check.on("size 2 2;heights 5 5;").peaks(0), 0);
+    Check.due("42: the end of a row is no neighbour of the next one", Check.on("size 2 2;heights 0 5 5 0;").peaks(0), 2);
     Check.due("42: corners are no neighbours", Check.on("size 2 2;heights 5 0 0 5;").peaks(0), 2);
     for (int land : NO_LANDS) Check.due("42: no land " + land, Check.on(FLAT).peaks(land), -1);
   }

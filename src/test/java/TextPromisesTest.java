@@ -339,6 +339,14 @@ public final class TextPromisesTest {
     Check.feed(x, " 8;");
     Check.due("45: what the tape had", x.text(0, -1), 1);
     Check.due("45: what the tape had", x.land(1, 2), 8);
+    HillSketch y = Check.on("");
+    Check.land(y, "size 3 3;heights 1 2 3 4 0 9 5 6 7;");
+    y.hump(1, 4, -1);
+    y.image(0);
+    y.mend(1, 4, 100);
+    Check.due("45: the second land, too", y.hump(1, 4, -1), 4);
+    y.again(0);
+    Check.due("45: the second land, too", y.hump(1, 4, -1), 3);
     Check.due("45: as often as one likes", x.again(2), true);
     Check.due("45: as often as one likes", x.count(0), 1);
   }
