@@ -49,7 +49,6 @@ public final class HillSketch {
 
     private final State now;
     private final State[] images;
-    private final boolean[] taken;
     private final Reader reader;
     private final Sight sight;
     private final Scene[] scenes;
@@ -63,7 +62,6 @@ public final class HillSketch {
     public HillSketch() {
         now = new State();
         images = new State[IMAGES];
-        taken = new boolean[IMAGES];
         reader = new Reader();
         sight = new Sight();
         scenes = new Scene[MOST_LANDS];
@@ -240,12 +238,11 @@ public final class HillSketch {
             images[k] = new State();
         }
         images[k].take(now);
-        taken[k] = true;
         return true;
     }
 
     public boolean again(int k) {
-        if (k < 0 || k >= IMAGES || !taken[k] || images[k] == null) {
+        if (k < 0 || k >= IMAGES || images[k] == null) {
             return false;
         }
         now.take(images[k]);
