@@ -96,6 +96,9 @@ public final class HillSketch {
     }
 
     public int text(int sort, int at) {
+        // The tape is taken by every call, even by one that reads nothing of it.
+        int taken = now.length;
+        now.length = 0;
         now.fault = 0;
         now.faultAt = NONE;
         int number = slotFor(sort, at);
@@ -103,11 +106,10 @@ public final class HillSketch {
             return NO_SUCH;
         }
         if (sort == LAND) {
-            reader.readLand(now.tape, now.length);
+            reader.readLand(now.tape, taken);
         } else {
-            reader.readSketch(now.tape, now.length);
+            reader.readSketch(now.tape, taken);
         }
-        now.length = 0;
         if (reader.fault != 0) {
             now.fault = reader.fault;
             now.faultAt = reader.faultAt;

@@ -95,13 +95,13 @@ final class Plain {
   }
 
   int text(int sort, int at) {
+    String t = now.tape;
+    now.tape = "";
     now.fault = 0;
     now.faultAt = -1;
     if (sort < 0 || sort > 1) return -2;
     int size = sort == 0 ? now.lands.size() : now.sketches.size();
     if (at == -1 ? size == (sort == 0 ? 2 : 4) : at < 0 || at >= size) return -2;
-    String t = now.tape;
-    now.tape = "";
     List<String> tokens = new ArrayList<>();
     List<Integer> places = new ArrayList<>();
     StringBuilder codes = new StringBuilder();

@@ -8,6 +8,7 @@ public final class TextPromisesTest {
     feed();
     end();
     text();
+    tapeIsTaken();
     tokens();
     landFaults();
     sketchFaults();
@@ -74,12 +75,10 @@ public final class TextPromisesTest {
     Check.feed(x, "eye 2;");
     Check.due("4: two lands are all", x.text(0, -1), -2);
     Check.due("4: fault", x.fault(0), 0);
-    Check.due("4: no text was read, so the tape stays", x.end(6), 6);
-    Check.due("4: no such land", x.text(0, 2), -2);
-    Check.due("4: no such land", x.text(0, -2), -2);
-    Check.due("4: no such land", x.text(0, MAX), -2);
-    Check.due("4: no such sort", x.text(2, -1), -2);
-    Check.due("4: no such sort", x.text(-1, 0), -2);
+    Check.due("4: no text was read, but the tape was taken", x.end(1), -1);
+    for (int at : new int[] {2, -2, MIN, MAX}) Check.due("4: no such land " + at, x.text(0, at), -2);
+    for (int sort : new int[] {2, -1, MIN, MAX}) Check.due("4: no such sort " + sort, x.text(sort, 0), -2);
+    Check.feed(x, "eye 2;");
     Check.due("4: in the place of one", x.text(0, 0), 0);
     Check.due("4: in the place of one", x.land(0, 2), 2);
     Check.due("4: the other one stays", x.land(1, 2), 1);
@@ -89,6 +88,8 @@ public final class TextPromisesTest {
     for (int k = 0; k < 4; k++) Check.due("4: sketch " + k, Check.sketch(x, "hump 5;"), k);
     Check.feed(x, "hump 6;");
     Check.due("4: four sketches are all", x.text(1, -1), -2);
+    for (int at : new int[] {4, -2, MIN, MAX}) Check.due("4: no such sketch " + at, x.text(1, at), -2);
+    Check.feed(x, "hump 6;");
     Check.due("4: in the place of one", x.text(1, 3), 3);
     Check.due("4: in the place of one", x.sketch(3, 10), 6);
     Check.feed(x, "hump 7;eye 1;");
@@ -98,6 +99,39 @@ public final class TextPromisesTest {
     Check.feed(x, "");
     Check.due("4: nothing of the one ahead is left", x.text(0, 0), 0);
     Check.due("4: nothing of the one ahead is left", x.land(0, 2), 0);
+  }
+
+  /** The tape is taken by a text() that answers -2, too: the sort and number of those that are not. */
+  private static void tapeIsTaken() {
+    int[][] noSuch = {{0, 0}, {0, 2}, {0, -2}, {0, MAX}, {0, MIN}, {1, 0}, {1, 4}, {1, -2}, {1, MAX}, {1, MIN},
+      {2, -1}, {2, 0}, {-1, -1}, {-1, 0}, {MAX, -1}, {MIN, 0}};
+    for (int[] call : noSuch) {
+      HillSketch x = new HillSketch();
+      String name = "4: text(" + call[0] + ", " + call[1] + ")";
+      Check.feed(x, "eye 12;");
+      Check.due(name, x.text(call[0], call[1]), -2);
+      Check.due(name + ": fault", x.fault(0), 0);
+      Check.due(name + ": place", x.fault(1), -1);
+      Check.due(name + ": no land", x.count(0), 0);
+      Check.due(name + ": no sketch", x.count(1), 0);
+      Check.due(name + ": the tape is empty", x.end(1), -1);
+      Check.due(name + ": the tape is empty", x.feed(0, 0, 0, 0, 0), 20);
+    }
+    HillSketch x = new HillSketch();
+    Check.feed(x, "eye 2;");
+    x.image(1);
+    x.text(0, 5);
+    Check.due("4: the image has its own tape", x.again(1), true);
+    Check.due("4: the image has its own tape", x.text(0, -1), 0);
+    Check.due("4: the image has its own tape", x.land(0, 2), 2);
+    for (int k = 0; k < 4; k++) Check.sketch(x, "hump 5;");
+    Check.land(x, "");
+    for (int sort = 0; sort < 2; sort++) {
+      Check.feed(x, "hump 6;");
+      Check.due("4: as many as may be", x.text(sort, -1), -2);
+      Check.due("4: as many as may be, and the tape is empty", x.feed(0, 0, 0, 0, 0), 20);
+      x.end(0);
+    }
   }
 
   private static void tokens() {
