@@ -1,21 +1,25 @@
 import java.math.BigInteger;
 import java.util.ArrayList;
 import java.util.Arrays;
+import java.util.HashMap;
 import java.util.List;
+import java.util.Map;
 import java.util.TreeSet;
 import java.util.function.IntPredicate;
 import java.util.regex.Matcher;
 import java.util.regex.Pattern;
 
 /**
- * The document said once more, as slowly and plainly as can be: no caches, every year, every set, every height.
- * RandomRunsTest holds the answers of HillSketch against these.
+ * The document said once more, as slowly and plainly as can be: every start, every set, every height. It keeps nothing but
+ * the humps of a land as long as its heights stay, and passes over a year in which no tower comes or goes. RandomRunsTest
+ * and others hold the answers of HillSketch against these.
  */
 final class Plain {
   static final class L implements Cloneable {
     int w = 4, h = 4, eye, bend, haze = 999;
     int[] z = new int[144];
     List<int[]> things = new ArrayList<>(); // place, tower, from, to
+    Map<Integer, List<Integer>> tops = new HashMap<>(), humps = new HashMap<>();
 
     L copy() {
       L l = new L();
@@ -25,6 +29,11 @@ final class Plain {
       return l;
     }
     boolean has(int p) { return p >= 0 && p < w * h; }
+    void set(int p, int height) {
+      z[p] = height;
+      tops.clear();
+      humps.clear();
+    }
   }
 
   static final class S {
@@ -245,7 +254,7 @@ final class Plain {
   boolean mend(int land, int place, int height) {
     L l = l(land);
     if (l == null || !l.has(place) || height < 0 || height > 999) return false;
-    l.z[place] = height;
+    l.set(place, height);
     return true;
   }
 
@@ -302,7 +311,10 @@ final class Plain {
   }
 
   /** Tops of rays, in order. Angles of different rays are much farther apart than doubles err. */
-  private static List<Integer> tops(L l, int p) {
+  private static List<Integer> tops(L l, int p) { return l.tops.computeIfAbsent(p, k -> topsFrom(l, p)); }
+  private static List<Integer> humps(L l, int p) { return l.humps.computeIfAbsent(p, k -> humpsFrom(l, p)); }
+
+  private static List<Integer> topsFrom(L l, int p) {
     List<Integer> tops = new ArrayList<>();
     for (int q = 0; q < l.w * l.h; q++) {
       if (q == p || d(l, p, q) > l.haze) continue;
@@ -318,7 +330,7 @@ final class Plain {
     return tops;
   }
 
-  private static List<Integer> humps(L l, int p) {
+  private static List<Integer> humpsFrom(L l, int p) {
     List<Integer> t = tops(l, p), humps = new ArrayList<>();
     int n = t.size();
     if (n < 3) return humps;
@@ -424,8 +436,16 @@ final class Plain {
     if (top == null) return 0;
     if (year >= 0) return firstIn(l, s, p, top, year);
     int best = 0;
-    for (int y = s.from; y <= s.to; y++) best = Math.max(best, firstIn(l, s, p, top, y));
+    for (int y = s.from; y <= s.to && best < s.n(); y++) {
+      if (y == s.from || changes(l, y)) best = Math.max(best, firstIn(l, s, p, top, y));
+    }
     return best;
+  }
+
+  /** Whether in that year a tower stands that did not stand the year ahead, or the other way. */
+  private static boolean changes(L l, int year) {
+    for (int[] t : l.things) if (t[1] == 1 && (t[2] == year || t[3] + 1 == year)) return true;
+    return false;
   }
 
   private static int fits(L l, S s, int p, int year) {
@@ -520,6 +540,7 @@ final class Plain {
       int[] top = stand(s, humps, start);
       if (top == null) return false;
       for (int y = s.from; y <= s.to; y++) {
+        if (y > s.from && !changes(l, y)) continue;
         boolean fits = true;
         for (int i = 0; i < s.n() && fits; i++) {
           if ((set >> i & 1) == 1) continue;
@@ -660,7 +681,7 @@ final class Plain {
     if (!ok(l(land), p, c) || s(sketch) == null || p == c) return -1;
     L l = l(land).copy();
     for (int h = 0; h <= 999; h++) {
-      l.z[c] = h;
+      l.set(c, h);
       if (fits(l, s(sketch), p, -1) >= 0) return h;
     }
     return -1;
@@ -669,7 +690,7 @@ final class Plain {
   int shift(int land, int c, int h) {
     if (!ok(l(land), c) || h < 0 || h > 999) return -1;
     L l = l(land).copy();
-    l.z[c] = h;
+    l.set(c, h);
     int n = 0;
     for (int p = 0; p < l.w * l.h; p++) if (humps(l, p).size() != humps(l(land), p).size()) n++;
     return n;
