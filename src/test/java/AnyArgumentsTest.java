@@ -16,8 +16,51 @@ public final class AnyArgumentsTest {
     }
     methods.sort(Comparator.comparing(Method::getName));
     for (int seed = 0; seed < 120; seed++) anyCalls(methods, new Random(seed));
+    for (Method method : methods) {
+      for (int kind = 0; kind < 4; kind++) extremes(method, kind);
+    }
     for (int kind : new int[] {1, 2, 5, 100, 1000}) dearCalls(kind);
     Check.finish("AnyArgumentsTest");
+  }
+
+  /** A new object, one with lands alone, one with sketches alone, one with all that there may be. */
+  private static HillSketch make(int kind) {
+    HillSketch x = new HillSketch();
+    if (kind == 1 || kind == 3) {
+      Check.land(x, "size 2 2;heights 0 1 2 3;lake 0;tower 3 0 99;");
+      Check.land(x, "size 3 2;heights 0 1 0 3 0 5;haze 1;");
+    }
+    if (kind > 1) {
+      for (int k = 0; k < 4; k++) Check.sketch(x, k % 2 == 0 ? "hump 1 tower;half;" : "hump 9;hump 1 lake;true;turned;half;");
+    }
+    if (kind == 3) {
+      for (int k = 0; k < 3; k++) x.image(k);
+      Check.land(x, "eye 10;");
+      for (int k = 0; k < 35; k++) x.feed(-1, -1, -1, -1, -1);
+    }
+    return x;
+  }
+
+  /** All rows of the least, the greatest and a few numbers between them. */
+  private static void extremes(Method method, int kind) throws Exception {
+    int[] few = method.getParameterCount() > 5 ? new int[] {Integer.MIN_VALUE, 0, Integer.MAX_VALUE}
+      : new int[] {Integer.MIN_VALUE, -1, 0, 1, Integer.MAX_VALUE};
+    int rows = 1;
+    for (int i = 0; i < method.getParameterCount(); i++) rows *= few.length;
+    HillSketch x = make(kind);
+    for (int row = 0; row < rows; row++) {
+      if (row % 300 == 299) x = make(kind);
+      Object[] values = new Object[method.getParameterCount()];
+      for (int i = 0, rest = row; i < values.length; i++, rest /= few.length) {
+        int number = few[rest % few.length];
+        values[i] = method.getParameterTypes()[i] == boolean.class ? (Object) (number > 0) : (Object) number;
+      }
+      try {
+        method.invoke(x, values);
+      } catch (java.lang.reflect.InvocationTargetException thrown) {
+        Check.due(method.getName() + java.util.Arrays.toString(values) + " threw " + thrown.getCause(), 1, 0);
+      }
+    }
   }
 
   private static void anyCalls(List<Method> methods, Random random) throws Exception {

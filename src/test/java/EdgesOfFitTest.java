@@ -348,6 +348,11 @@ public final class EdgesOfFitTest {
     String lake = "lake " + RAY[2 * i - 1] + ";";
     HillSketch none = Check.on(ladder(24) + lake, texts);
     HillSketch one = Check.on(ladder(24) + lake + "tower " + RAY[2 * i] + " 0 99;", texts);
+    // where another HUMP asks for none, a LAKE still asks for no more than a LAKE
+    HillSketch other = Check.on(ladder(24) + lake + "tower " + RAY[2 * i] + " 0 99;", texts[0].replaceFirst("hump 5;", "hump 5 bare;"));
+    firstIs("a LAKE at " + i + ", BARE at 0, with a TOWER", other, 0, 0, 12);
+    HillSketch few = Check.on(ladder(24) + lake + "tower " + RAY[2 * i] + " 0 99;", "hump 5;hump 5 lake;half;");
+    Check.due("21: a LAKE and a TOWER that is not asked for", few.doubt(0, 0), 0);
     int[] without = {12, 12, i};
     int[] with = {12, i, 12};
     for (int m = 0; m < 3; m++) {
@@ -838,6 +843,18 @@ public final class EdgesOfFitTest {
     Check.due("15: HUMPS on RAYS 40 and 89", x.first(0, 3, 64, 0, -1), steeper ? 2 : 1);
     Check.due("15: TRUE, RAYS 40 and 89", x.first(0, 1, 64, 0, -1), 100 * Math.abs(81 * d - 400 * e) <= 99 * 400 * e ? 2 : 1);
     Check.due("15: TRUE, RAYS 89 and 40", x.first(0, 1, 64, 1, -1), 100 * Math.abs(400 * e - 81 * d) <= 99 * 81 * d ? 2 : 1);
+    // two HEIGHTS in the proportion of both, from either one on
+    int high = 1;
+    while (Math.abs(high * high * 400L * e - 2500L * 81 * d) * 4 > 2500L * 81 * d) high++;
+    Check.feed(x, humps(high, 50) + "true;give 99;");
+    x.text(1, 2);
+    Check.feed(x, humps(50, high) + "true;give 99;");
+    x.text(1, 3);
+    int due = 100 * Math.abs(2500L * 81 * d - (long) high * high * 400 * e) <= 99L * high * high * 400 * e ? 2 : 1;
+    Check.due("15: TRUE, from RAY 40 to 89, HEIGHTS " + high + " and 50", x.first(0, 2, 64, 0, -1), due);
+    due = 100 * Math.abs((long) high * high * 400 * e - 2500L * 81 * d) <= 99L * 2500 * 81 * d ? 2 : 1;
+    Check.due("15: TRUE, from RAY 89 to 40, HEIGHTS 50 and " + high, x.first(0, 3, 64, 1, -1), due);
+    Check.due("15: TRUE, HEIGHTS 50 and " + high + " are close enough", due, 2);
     Check.due("32: RAY 89 counts", x.stretch(0, 0, 64, 1, steeper ? false : true, true) > 0, true);
     x.mend(0, other, 0);
     x.mend(0, last, 1);

@@ -250,8 +250,9 @@ public final class EdgesOfTellingTest {
         Check.feed(x, text.toString());
         x.image(1);
         x.end(0);
-        Check.feed(x, "eye 10;eye 10;eye 10;");
+        Check.feed(x, "!".repeat(700));
         x.text(0, -1);
+        Check.due("45: a FAULT now", x.fault(0), 1);
         x.again(1);
         Check.due("45: no FAULT then", x.fault(0), 0);
         Check.due("45: bytes of the tape", x.end(had + 1), -1);

@@ -48,13 +48,13 @@ public final class LargestRunsTest {
   private static void same(String call, long got, long want) { Check.due(call + " on '" + land + "'", got, want); }
 
   private static int any() {
-    int places = x.land(0, 0) * x.land(0, 1);
+    int places = y.land(0, 0) * y.land(0, 1);
     return Math.min(places - 1, random.nextBoolean() ? PLACES[random.nextInt(PLACES.length)] : random.nextInt(places));
   }
 
   private static void sight() {
     for (int p : PLACES) {
-      if (!(p < x.land(0, 0) * x.land(0, 1))) continue;
+      if (y.height(0, p) < 0) continue;
       int rays = y.ray(0, p, -1);
       int humps = y.hump(0, p, -1);
       same("rays of " + p, x.ray(0, p, -1), rays);
@@ -94,14 +94,14 @@ public final class LargestRunsTest {
   }
 
   private static void fitting() {
-    int places = x.land(0, 0) * x.land(0, 1);
+    int places = y.land(0, 0) * y.land(0, 1);
     for (int p : new int[] {0, 143, 78, 130}) {
       int from = Math.min(p, places - 1);
       int m = y.hump(0, from, -1);
       int n = Math.min(m, 12);
       if (n == 0) continue;
       for (int start : new int[] {0, m - 1}) {
-        int at = x.count(1) < 4 ? -1 : random.nextInt(4);
+        int at = y.count(1) < 4 ? -1 : random.nextInt(4);
         same("draw " + from + " " + start, x.draw(0, from, start, n, at), y.draw(0, from, start, n, at));
       }
       same("rivals " + from, x.rivals(0, from, m - 1, n), y.rivals(0, from, m - 1, n));
@@ -110,22 +110,22 @@ public final class LargestRunsTest {
       same("found " + from, x.found(0, from, 0, Math.min(m, 9), seed, 12, 3, true), y.found(0, from, 0, Math.min(m, 9), seed, 12, 3, true));
       asked(0, from, m);
     }
-    if (x.count(1) == 0) tell(1, "hump 1;half;", -1);
+    if (y.count(1) == 0) tell(1, "hump 1;half;", -1);
     String[] texts = {"hump 1;hump 2;half;years 3 7;", "hump 3 lake;hump 1 lake;hump 2 bare;half;turned;years 2 4;", "hump 9;hump 7;hump 5;true;give 80;half;",
       "hump 1;".repeat(12) + "half;", "hump 1 tower;half;years 0 9;", "hump 1;hump 1 lake;hump 2 tower;half;turned;give 1;"};
     for (String text : texts) {
       tell(1, text, 0);
       int p = any();
       asked(0, p, y.hump(0, p, -1));
-      same("doubt of '" + text + "'", x.sketch(0, 0) < 4 ? x.doubt(0, 0) : 0, x.sketch(0, 0) < 4 ? y.doubt(0, 0) : 0);
-      if (x.sketch(0, 6) < 10) same("since of '" + text + "'", x.since(0, 0, text.length() % 2 == 0), y.since(0, 0, text.length() % 2 == 0));
+      same("doubt of '" + text + "'", y.sketch(0, 0) < 4 ? x.doubt(0, 0) : 0, y.sketch(0, 0) < 4 ? y.doubt(0, 0) : 0);
+      if (y.sketch(0, 6) < 10) same("since of '" + text + "'", x.since(0, 0, text.length() % 2 == 0), y.since(0, 0, text.length() % 2 == 0));
     }
   }
 
   /** All that is asked of one sketch and one place. */
   private static void asked(int sketch, int p, int m) {
-    int other = x.count(1) - 1;
-    int last = x.sketch(sketch, 0) - 1;
+    int other = y.count(1) - 1;
+    int last = y.sketch(sketch, 0) - 1;
     int start = m > 0 ? random.nextInt(m) : 0;
     int year = random.nextInt(12) - 1;
     same("where", x.where(0, sketch, -1, -1), y.where(0, sketch, -1, -1));

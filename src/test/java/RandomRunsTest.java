@@ -128,23 +128,23 @@ public final class RandomRunsTest {
   private static void tellSomething(int most) {
     int way = below(10);
     if (way < 2) {
-      read(landText(most), 0, x.count(0) < 2 ? -1 : below(2));
+      read(landText(most), 0, y.count(0) < 2 ? -1 : below(2));
     } else if (way < 6) {
-      read(sketchText(), 1, x.count(1) < 4 ? -1 : below(4));
+      read(sketchText(), 1, y.count(1) < 4 ? -1 : below(4));
     } else if (way < 8) {
       read(spoil(below(2) == 0 ? landText(most) : sketchText()), below(2), number(2));
-    } else if (x.count(1) > 0) {
-      read(likeSketch(below(x.count(1))), 1, below(x.count(1)));
+    } else if (y.count(1) > 0) {
+      read(likeSketch(below(y.count(1))), 1, below(y.count(1)));
     }
   }
 
   private static void call() {
-    int l = number(x.count(0)), s = number(x.count(1)), s2 = number(x.count(1));
-    int places = Math.max(1, x.land(l, 0) * x.land(l, 1));
+    int l = number(y.count(0)), s = number(y.count(1)), s2 = number(y.count(1));
+    int places = Math.max(1, y.land(l, 0) * y.land(l, 1));
     int p = number(places), q = number(places), r = number(places);
-    int m = Math.max(0, x.hump(l, p, -1)), start = number(m), k = number(below(3) == 0 ? 12 : 4);
-    int n = number(Math.max(1, x.sketch(s, 0))), draw = 1 + number(Math.min(m, 12));
-    int year = below(2) == 0 ? -1 : number(100), at = below(3) == 0 ? -1 : number(x.count(1));
+    int m = Math.max(0, y.hump(l, p, -1)), start = number(m), k = number(below(3) == 0 ? 12 : 4);
+    int n = number(Math.max(1, y.sketch(s, 0))), draw = 1 + number(Math.min(m, 12));
+    int year = below(2) == 0 ? -1 : number(100), at = below(3) == 0 ? -1 : number(y.count(1));
     boolean one = random.nextBoolean(), two = random.nextBoolean();
     String a = "(l " + l + ", s " + s + ", s2 " + s2 + ", p " + p + ", q " + q + ", r " + r + ", start " + start + ", k " + k
       + ", n " + n + ", draw " + draw + ", year " + year + ", at " + at + ", " + one + ", " + two + ")";
@@ -182,7 +182,7 @@ public final class RandomRunsTest {
         same("scrawl" + a + seed + ", " + e, x.scrawl(l, p, start, draw, seed, e, at), y.scrawl(l, p, start, draw, seed, e, at)); break; }
       case 31: { int seed = random.nextInt(), e = number(21), w = 1 + number(8);
         same("found" + a + seed + ", " + e + ", " + w, x.found(l, p, start, draw, seed, e, w, one), y.found(l, p, start, draw, seed, e, w, one)); break; }
-      case 32: { int o = number(x.count(0)); same("differs" + a + o, x.differs(l, o, p), y.differs(l, o, p)); break; }
+      case 32: { int o = number(y.count(0)); same("differs" + a + o, x.differs(l, o, p), y.differs(l, o, p)); break; }
       case 33: same("hidden" + a, x.hidden(l), y.hidden(l)); break;
       case 34: { int w = number(5) - 1; same("guards" + a + w, x.guards(l, w), y.guards(l, w)); break; }
       case 35: same("sneak" + a, x.sneak(l, p, q, r), y.sneak(l, p, q, r)); break;
@@ -196,7 +196,7 @@ public final class RandomRunsTest {
   }
 
   public static void main(String[] args) {
-    int runs = args.length > 0 ? Integer.parseInt(args[0]) : 400;
+    int runs = args.length > 0 ? Integer.parseInt(args[0]) : 1000;
     int seed = args.length > 1 ? Integer.parseInt(args[1]) : 1;
     int most = args.length > 2 ? Integer.parseInt(args[2]) : 5;
     for (int run = 0; run < runs && wrong == 0; run++) {
@@ -205,7 +205,7 @@ public final class RandomRunsTest {
       x = new HillSketch();
       y = new Plain();
       int size = run % 10 == 0 ? most : 4;
-      for (int k = 0; k < 4; k++) read(landText(size), 0, x.count(0) < 2 ? -1 : below(2));
+      for (int k = 0; k < 4; k++) read(landText(size), 0, y.count(0) < 2 ? -1 : below(2));
       for (int k = 0; k < 5; k++) tellSomething(size);
       for (int k = 0; k < 120; k++) call();
     }
